@@ -617,22 +617,22 @@ public final class FourInks {
         /** How many numbers THE TAPE has, which is empty then; NONE if it is no row of such numbers that has room. */
         int takeRow(int[] row, int most, boolean signs) {
             int size = 0;
+            boolean good = true;
             rewind();
             next();
-            while (size < row.length && kind != AT_END) {
+            while (good && size < row.length && kind != AT_END) {
                 boolean minus = signs && kind == MINUS;
                 if (minus) {
                     next();
                 }
-                if (kind != NUMBER || value > most) {
-                    break;
-                }
+                good = kind == NUMBER && value <= most;
                 row[size] = minus ? -value : value;
                 size++;
                 next();
             }
+            good = good && kind == AT_END;
             length = 0;
-            return kind == AT_END ? size : NONE;
+            return good ? size : NONE;
         }
     }
 
