@@ -538,39 +538,43 @@ public final class FourInks {
         }
 
         void next() {
-            while (at < length && (bytes[at] == ' ' || bytes[at] == '\n')) {
+            while (at < length && isBlank(bytes[at])) {
                 at++;
             }
             start = at;
             value = 0;
             if (at >= length) {
                 kind = AT_END;
-            } else if (isLetter(at)) {
+            } else if (isLetter(bytes[at])) {
                 takeWord();
-            } else if (isDigit(at)) {
+            } else if (isDigit(bytes[at])) {
                 takeNumber();
             } else {
                 takeSign(bytes[at]);
             }
         }
 
-        private boolean isLetter(int place) {
-            return bytes[place] >= 'a' && bytes[place] <= 'z';
+        private static boolean isBlank(int b) {
+            return b == ' ' || b == '\n';
         }
 
-        private boolean isDigit(int place) {
-            return bytes[place] >= '0' && bytes[place] <= '9';
+        private static boolean isLetter(int b) {
+            return b >= 'a' && b <= 'z';
+        }
+
+        private static boolean isDigit(int b) {
+            return b >= '0' && b <= '9';
         }
 
         private void takeWord() {
-            while (at < length && isLetter(at)) {
+            while (at < length && isLetter(bytes[at])) {
                 at++;
             }
             kind = at - start <= LONGEST_WORD ? WORD : NO_TOKEN;
         }
 
         private void takeNumber() {
-            while (at < length && isDigit(at)) {
+            while (at < length && isDigit(bytes[at])) {
                 value = value * 10 + bytes[at] - '0';
                 at++;
             }
@@ -689,8 +693,7 @@ public final class FourInks {
         }
 
         private void takeClause() {
-            int clause = tape.wordIn(CLAUSE_WORDS);
-            switch (clause) {
+            switch (tape.wordIn(CLAUSE_WORDS)) {
                 case SHEET:
                     takeSheet();
                     break;
@@ -706,14 +709,6 @@ public final class FourInks {
                 case OVER:
                     draft.over = onlyNumber(OVER, 99);
                     break;
-                default:
-                    takeManyfold(clause);
-            }
-        }
-
-        /** Clauses that may be told several times. */
-        private void takeManyfold(int clause) {
-            switch (clause) {
                 case MARK:
                     takeMark();
                     break;
@@ -852,10 +847,12 @@ public final class FourInks {
                 return 0;
             }
             tape.next();
-            if (tape.kind != Tape.MINUS) {
-                return numberHere(0, most);
+            boolean minus = tape.kind == Tape.MINUS;
+            if (minus) {
+                tape.next();
             }
-            return -number(0, most);
+            int number = numberHere(0, most);
+            return minus ? -number : number;
         }
 
         private int numberHere(int least, int most) {
@@ -898,14 +895,10 @@ public final class FourInks {
         final int[] lies = new int[INKS * INKS];
 
         Job() {
-            tellNothing();
+            forget();
         }
 
         void forget() {
-            tellNothing();
-        }
-
-        private void tellNothing() {
             clauses = 0;
             width = 100;
             height = 100;
