@@ -187,7 +187,9 @@ public final class JobTest {
         Checks.refused("white 100;", 2, 6);
         Checks.refused("over 100;", 2, 5);
         Checks.refused("screen 0 1;", 2, 7);
+        Checks.refused("screen 31 1;", 2, 7);
         Checks.refused("screen 1 31;", 2, 9);
+        Checks.refused("screen 1 0;", 2, 9);
         Checks.refused("lies red blue 101;", 2, 14);
     }
 

@@ -76,6 +76,7 @@ public final class RunTest {
         Checks.due("a halt that pays later alone", x.halt(2, 1, 10, 15, 0, 0), 1);
         Checks.due("its cost", x.cost(2, 1, 10, 15, 0, 0), 1500);
         Checks.due("of one block", x.halt(1, 1, 10, 15, 0, 0), 0);
+        Checks.due("a halt and what comes behind it", x.cost(2, 6, 10, 5, 10, 0), 1000);
         Checks.due("eight", x.cost(8, 6, 999, 999, 0, 0), 99900000000L);
         Checks.due("eight without halts", x.cost(8, 1, 1, 999, 0, 0), 800000000L);
         Checks.due("free halts", x.cost(8, 6, 999, 0, 0, 0), 0);
@@ -117,6 +118,7 @@ public final class RunTest {
         bed("0", 1, 9, 0, 9, 9);
         bed("0", 20, 120, 0, 6, 6);
         bed("99", 20, 99, 0, 0, 0);
+        bed("0 0", 20, 20, 20, 0, 0, 0);
         // the middle zone may have 0 layers, but then more SCRAPS are needed
         bed("10 25 10", 10, 30, 5, 3, 2, 1, 2);
         bed("10 20 10", 10, 30, 10, 1, 1, 1, 1);
@@ -133,6 +135,7 @@ public final class RunTest {
         bed("", 1, 1, 1, -1);
         bed("0 ".repeat(21), 1, 0, 0, -1);
         bed("100", 1, 1, 1, -1);
+        bed("100", 1, 100, 0, -1);
         bed("-1", 1, 1, 1, -1);
         bed("00001", 1, 1, 1, -1);
         bed("1;", 1, 1, 1, -1);

@@ -32,6 +32,11 @@ public final class ScreenTest {
         for (int i = 0; i < 4; i++) {
             Checks.due("screen of ink " + i, x.setting(1 + i), row[i]);
         }
+        FourInks poor = Checks.told("screen 25 25; screen 1 1; screen 20 1; screen 20 20; screen 30 30;");
+        Checks.due("without the first", poor.setting(0), 200);
+        for (int i = 0; i < 4; i++) {
+            Checks.due("all but the first, ink " + i, poor.setting(1 + i), 1 + i);
+        }
         Checks.due("what 5", x.setting(5), -2);
         Checks.due("what -1", x.setting(-1), -2);
         FourInks like = Checks.told("screen 5 5;".repeat(8));

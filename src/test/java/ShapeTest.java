@@ -77,6 +77,10 @@ public final class ShapeTest {
         Checks.due("within 0", x.worst(0, 1, 0, 0, 0), 0);
         Checks.due("within 1", x.worst(0, 1, 0, 0, 1), 7);
         Checks.due("within 2", x.worst(0, 1, 0, 0, 2), 12);
+        FourInks over = Checks.told("white 0; over 1; box blue 6 0 2 16; box red 4 4 2 4; box black 8 4 2 4; box yellow 6 0 2 4;");
+        Checks.due("the last shift across counts", over.worst(0, 1, 0, 0, 2), 8);
+        Checks.due("the first shift across counts", over.worst(0, 3, 0, 0, 2), 8);
+        Checks.due("shifts across and up at once count", over.worst(3, 2, 0, 0, 2), 4);
         Checks.due("both spread, at the board's end", x.worst(0, 1, 1, 1, 1), 3);
         int[][] wrong = {{0, 0, 0, 0, 0}, {4, 1, 0, 0, 0}, {0, -1, 0, 0, 0}, {0, 1, 3, 0, 0}, {0, 1, 0, -3, 0},
             {0, 1, 0, 0, -1}, {0, 1, 0, 0, 3}};
@@ -111,6 +115,10 @@ public final class ShapeTest {
         Checks.due("a wrong one changes nothing", x.spread(0), k);
         Checks.due("spread 2", x.spread(2), -99);
         Checks.due("spread -1", x.spread(-1), -99);
+        FourInks choke = Checks.told("white 0; over 1; box blue 0 0 8 16; box red 8 0 8 16;");
+        Checks.due("either may be choked", choke.best(0, 1, 1), 0);
+        Checks.due("the least k", choke.spread(0), -1);
+        Checks.due("its l likewise", choke.spread(1), 0);
         FourInks tie = Checks.told("white 1; over 0; box blue 4 4 4 8; box red 8 4 4 8;");
         Checks.due("of like ones the least k", tie.best(0, 1, 1), 0);
         Checks.due("its k", tie.spread(0), 0);
@@ -135,6 +143,11 @@ public final class ShapeTest {
         Checks.due("red 25", x.held(12, 25, 12, 12), -2);
         Checks.due("yellow 25", x.held(12, 12, 25, 12), -2);
         Checks.due("black -1", x.held(12, 12, 12, -1), -2);
+        FourInks late = Checks.told("box yellow 4 4 1 1; box black 8 8 1 3;");
+        late.sign();
+        Checks.due("yellow across", late.held(12, 12, 13, 12), 2);
+        Checks.due("black across", late.held(12, 12, 12, 13), 6);
+        Checks.due("black up", late.held(12, 12, 12, 17), 2);
         Checks.put(x, "box red 0 0 2 2; box black 0 0 1 1;");
         x.job();
         Checks.due("another JOB against the PROOF", x.held(12, 12, 12, 12), 7);

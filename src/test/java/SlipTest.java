@@ -159,6 +159,10 @@ public final class SlipTest {
         FourInks bare = Checks.told("screw red 1 1 1; screw red 2 2 2; turns 3;");
         Checks.due("no marks", bare.mend(1, 9, 9, 9, 9), 0);
         Checks.due("no turns are needed", bare.turned(1), 0);
+        FourInks wide = Checks.told("mark 100 0; mark 0 100;");
+        Checks.due("the stretch takes back", wide.mend(0, -5, 0, 0, 9), 9);
+        Checks.due("across and its turn", wide.mend(0, 4, -2, -3, 0), 7);
+        Checks.due("up and its turn", wide.mend(0, 0, 4, 5, 0), 9);
         FourInks steep = Checks.told("mark 50 0; turns 4; screw black 0 0 -2;");
         Checks.due("the turn leaves its bounds", steep.mend(3, 0, 9, -8, 0), 1);
         Checks.due("by turns", steep.turned(0), 4);
