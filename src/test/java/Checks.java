@@ -1,3 +1,5 @@
+import java.util.function.IntToLongFunction;
+
 /** What the tests share: answers that are due, and texts that are put on the tape. */
 final class Checks {
     private static int wrong = 0;
@@ -11,6 +13,21 @@ final class Checks {
         if (got != want) {
             wrong++;
             System.out.println(call + " answered " + got + ", due is " + want);
+        }
+    }
+
+    /** The last numbers that may be, with their answers, and the first that may not, at both ends. */
+    static void ends(String call, int least, long atLeast, int most, long atMost, long refusal, IntToLongFunction answer) {
+        due(call + " " + least, answer.applyAsLong(least), atLeast);
+        due(call + " " + most, answer.applyAsLong(most), atMost);
+        beyond(call, least, most, refusal, answer);
+    }
+
+    /** The first numbers that may not be, at both ends, and the farthest ones. */
+    static void beyond(String call, int least, int most, long refusal, IntToLongFunction answer) {
+        int[] beyond = {least - 1, most + 1, Integer.MIN_VALUE, Integer.MAX_VALUE};
+        for (int number : beyond) {
+            due(call + " " + number, answer.applyAsLong(number), refusal);
         }
     }
 
@@ -41,10 +58,27 @@ final class Checks {
         return x;
     }
 
-    /** A text must be refused with this FAULT. */
-    static void refused(String text, int kind, int place) {
+    /** A new object with a text on its tape. */
+    static FourInks taped(String text) {
         FourInks x = new FourInks();
         put(x, text);
+        return x;
+    }
+
+    /** A text must be a JOB of so many clauses. */
+    static FourInks taken(String text, int clauses) {
+        FourInks x = taped(text);
+        due("job " + text, x.job(), clauses);
+        due("kind of " + text, x.fault(0), 0);
+        due("place of " + text, x.fault(1), -1);
+        due("tape behind " + text, x.count(4), 0);
+        due("clauses behind " + text, x.count(0), clauses);
+        return x;
+    }
+
+    /** A text must be refused with this FAULT. */
+    static void refused(String text, int kind, int place) {
+        FourInks x = taped(text);
         due("job " + text, x.job(), FourInks.NONE);
         due("kind of " + text, x.fault(0), kind);
         due("place of " + text, x.fault(1), place);
