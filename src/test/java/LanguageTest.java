@@ -172,7 +172,7 @@ public final class LanguageTest {
     }
 
     private static void dearRun(FourInks x) {
-        for (int i = 0; i < 30; i++) {
+        for (int i = 0; i < 28; i++) {
             x.end(0);
             x.feed(0x626f7820, 0x72656420, 0x31203120, 0x39203920, 0x3b202020);
             x.job();

@@ -2,25 +2,34 @@ import java.util.Random;
 
 /** Random calls, each held against the answer of NaiveInks. */
 public final class NaiveTest {
-    private static final int RUNS = 120;
-    private static final int CALLS = 300;
+    private static final int RUNS = 600;
+    /** Nothing is promised of an object behind so many calls. */
+    private static final int LAST_CALL = 512;
+    /** Above what one step of a run may call. */
+    private static final int CALLS_OF_STEP = 100;
+    private static final int KINDS = 12;
     private static final String[] INKS = {"blue", "red", "yellow", "black"};
 
     private final Random random;
     private final FourInks x = new FourInks();
     private final NaiveInks naive = new NaiveInks();
     private final int run;
+    /** The kind of call that this run makes most, so that some runs come far with each. */
+    private final int often;
+    private int calls = 0;
     private int step = 0;
 
     private NaiveTest(int run) {
         this.run = run;
+        often = run % KINDS;
         random = new Random(run);
     }
 
     public static void main(String[] args) {
         for (int run = 0; run < RUNS; run++) {
             NaiveTest test = new NaiveTest(run);
-            for (int call = 0; call < CALLS; call++) {
+            test.tellJob();
+            while (test.calls + CALLS_OF_STEP <= LAST_CALL) {
                 test.call();
             }
         }
@@ -28,6 +37,7 @@ public final class NaiveTest {
     }
 
     private void same(String call, long got, long want) {
+        calls++;
         Checks.due("run " + run + ": " + call, got, want);
     }
 
@@ -52,8 +62,7 @@ public final class NaiveTest {
     }
 
     private void tell(String text) {
-        x.end(0);
-        naive.end(0);
+        same("end 0", x.end(0), naive.end(0));
         String whole = text.length() > 880 ? text.substring(0, 880) : text;
         for (int at = 0; at < whole.length(); at += 20) {
             int[] fed = new int[5];
@@ -135,13 +144,17 @@ public final class NaiveTest {
         return text.toString();
     }
 
+    private void tellJob() {
+        tell(jobText());
+        same("job", x.job(), naive.job());
+        step = 0;
+    }
+
     private void call() {
-        switch (below(12)) {
+        switch (below(2) == 0 ? often : below(KINDS)) {
             case 0:
                 if (below(4) == 0) {
-                    tell(jobText());
-                    same("job", x.job(), naive.job());
-                    step = 0;
+                    tellJob();
                 }
                 break;
             case 1:
