@@ -32,7 +32,7 @@ public final class ScreenEdgeTest {
     /** "the least, over the four turns of the second (p, q; -q, p; -p, -q; q, -p)": screens of 1 .. 30 each */
     private static void fourTurns() {
         FourInks x = Checks.told("screen 1 1; screen 30 30; screen 1 30; screen 30 1; screen 12 5; screen 5 12; screen 12 5;");
-        int[][] due = {{0, 1, 2 * 29 * 29}, {1, 0, 2 * 29 * 29}, {2, 3, 4}, {3, 2, 4}, {0, 2, 4 + 29 * 29 - 4}, {0, 3, 841},
+        int[][] due = {{0, 1, 2 * 29 * 29}, {1, 0, 2 * 29 * 29}, {2, 3, 4}, {3, 2, 4}, {0, 2, 841}, {0, 3, 841},
             {4, 5, 98}, {5, 4, 98}, {4, 6, 0}, {2, 2, 0}, {1, 2, 841}, {1, 3, 841}};
         for (int[] one : due) {
             Checks.due("beat " + one[0] + " " + one[1], x.beat(one[0], one[1]), one[2]);
@@ -173,9 +173,9 @@ public final class ScreenEdgeTest {
         }
         FourInks last = x;
         Checks.ends("sum", 123, 300, 3210, 300, -2, last::sum);
-        int[] wrong = {-123, -3210, 10123, 43210, 32100, 1230, 100123, 1_000_000_123};
+        int[] wrong = {-123, -3210, 10123, 43210, 32100, 100123, 1_000_000_123};
         for (int order : wrong) {
-            Checks.due("sum " + order, last.sum(order), order == 1230 ? 300 : -2);
+            Checks.due("sum " + order, last.sum(order), -2);
         }
     }
 
